@@ -26,6 +26,8 @@ public final class ChainTest {
         bears();
         must();
         frees();
+        behindTheHolder();
+        fullHouse();
         noSuchHands();
         beside();
         Check.end();
@@ -349,6 +351,42 @@ public final class ChainTest {
         x.fact(1, 3, true);
         row("sworn", x, x::frees, 0, 0, 0, 0);
         row("one who swore and gets", x, x::bears, 100, -30, 30, 0);
+    }
+
+    /** What was so while it held the thing is not so when the day shows that it did not. */
+    private static void behindTheHolder() {
+        KeepingHands x = lent(2, "any swears all;");
+        x.harm(LOST, 20);
+        row("claims", x, x::claim, 0, 100, 100);
+        row("must", x, k -> x.must(k) ? 1 : 0, 0, 1, 1);
+        x.harm(LOST, 10);
+        row("claims by an earlier day", x, x::claim, 0, 100, 0);
+        row("whom by an earlier day", x, x::whom, NONE, 0, NONE);
+        row("pays by an earlier day", x, x::pays, 0, 100, 0);
+        row("bears by an earlier day", x, x::bears, 0, 100, 0);
+        row("must by an earlier day", x, k -> x.must(k) ? 1 : 0, 0, 1, 0);
+        row("frees by an earlier day", x, x::frees, 0, 100, 0);
+        x.harm(NONE, 10);
+        row("claims by none", x, x::claim, 0, 0, 0);
+        row("must by none", x, k -> x.must(k) ? 1 : 0, 0, 0, 0);
+    }
+
+    private static void fullHouse() {
+        KeepingHands x = lent(12, "lent answers all if fault=1;lent swears all if use=1;");
+        x.harm(HURT, 999);
+        Check.due("holder", 12, x::holder);
+        x.fact(12, 2, true);
+        row("claims", x, x::claim, 0, 0, 0, 0, 0, 0, 0, 0, 0, 0, 0, 0, 100);
+        row("bears", x, x::bears, 100, 0, 0, 0, 0, 0, 0, 0, 0, 0, 0, -100, 100);
+        row("frees", x, x::frees, 0, 0, 0, 0, 0, 0, 0, 0, 0, 0, 0, 0, 100);
+        Check.due("wrong", 12, x::wrong);
+        x.judge(12, 100);
+        Check.due("none is wrong", NONE, x::wrong);
+        x.question(2, 12, 0);
+        x.question(0, 12, 0);
+        row("in a case", x, k -> x.inCase(0, k), 100, 0, 0, 0, 0, 0, 0, 0, 0, 0, 0, 0, 0);
+        Check.due("cases", 3, () -> x.cases(12));
+        Check.due("least", 3, x::least);
     }
 
     private static void noSuchHands() {

@@ -105,6 +105,13 @@ public final class FoundTest {
         x.fact(1, 0, true);
         x.fact(2, 0, false);
         Check.due("down the chain less than the value", 1, x::title);
+        x.value(1);
+        Check.due("a claim that is not paid whole", 0, x::title);
+        KeepingHands one = with("any answers all;any owes 1;");
+        one.pass(LENT, 0, 0, 0, true);
+        one.harm(LOST, 0);
+        one.value(1);
+        Check.due("a claim of one", 1, one::title);
         KeepingHands y = with("any answers all;any owes 0;");
         y.pass(LENT, 0, 0, 0, true);
         y.harm(LOST, 0);

@@ -11,6 +11,10 @@ public final class LawsTest {
         tooMany();
         leastFault();
         fault();
+        cutShort();
+        fullTape();
+        fullLaw();
+        afterFaults();
         force();
         answers();
         conditions();
@@ -111,6 +115,8 @@ public final class LawsTest {
         Check.dueFault("answers all;", 1, 0);
         Check.dueFault("lent twic;", 1, 5);
         Check.dueFault("lent mixed;", 1, 5);
+        Check.dueFault("lent twicea;", 1, 5);
+        Check.dueFault("lent twicez;", 1, 5);
         Check.dueFault("lent twice lent", 1, 11);
         Check.dueFault("lent twice", 1, 10);
         Check.dueFault("lent twice  ", 1, 12);
@@ -252,6 +258,75 @@ public final class LawsTest {
         Check.due("not read: no fault", NONE, x::fault);
     }
 
+    /** Behind the first n bytes nothing is read, though it would go on. */
+    private static void cutShort() {
+        KeepingHands x = new KeepingHands();
+        Check.feed(x, "any twices;");
+        Check.due("cut in a word", -9, () -> x.law(9));
+        Check.due("at the length", 9, x::fault);
+        Check.feed(x, "any owes 1234;");
+        Check.due("cut in a number", -9, () -> x.law(12));
+        Check.due("at its length", 12, x::fault);
+        Check.feed(x, "any owes 12    ;");
+        Check.due("cut in blanks", -9, () -> x.law(14));
+        Check.due("at the length of these", 14, x::fault);
+    }
+
+    private static void fullTape() {
+        Check.dueFault("any owes 1 ".concat(" ".repeat(489)), 1, 500);
+        Check.dueFault(" ".repeat(495) + "twice", 1, 495);
+        Check.dueFault(" ".repeat(497) + "any", 1, 500);
+        Check.dueFault("any owes" + " ".repeat(488) + "1234", 1, 500);
+        String sum = "any owes 1".concat("+1".repeat(244)) + ";";
+        KeepingHands x = with(sum, "any answers all if " + "1=2 or ".repeat(68) + "1=1;");
+        Check.due(sum, 245, () -> x.words(0, 0, 0, 0, 0, 2));
+        Check.due("or and or", 1, () -> x.words(1, 0, 0, 0, 0, 0));
+        KeepingHands y = with("any owes 9" + "*9/9".repeat(122) + ";",
+            "any answers all if " + "1=1 and ".repeat(59) + "1=2;", "any answers all" + ",all".repeat(121) + ";",
+            "any lets 1" + ",2".repeat(244) + ";");
+        Check.due("times and over", 9, () -> y.words(0, 0, 0, 0, 0, 2));
+        Check.due("and and and", 0, () -> y.words(1, 0, 0, 0, 0, 0));
+        Check.due("all and all", 1, () -> y.words(2, 0, 0, 0, 0, 0));
+        Check.dueIf("2 and 2", true, () -> y.lets(3, 0, 2));
+        Check.dueIf("not 3", false, () -> y.lets(3, 0, 3));
+    }
+
+    private static void fullLaw() {
+        KeepingHands x = with("mixed parts;".repeat(24), "free twice;".repeat(23) + "lent owes 3;",
+            "lent owes 3;" + "free lets 1;".repeat(23), "lent answers lost;".repeat(24));
+        for (int law = 0; law < 4; law++) {
+            int asked = law;
+            Check.due("no answers", 0, () -> x.words(asked, 0, 0, 7, 0, 0));
+            Check.due("no swears", 0, () -> x.words(asked, 0, 0, 7, 0, 1));
+            Check.due("owed", law == 1 || law == 2 ? 3 : 7, () -> x.words(asked, 384, 0, 7, 0, 2));
+            Check.dueIf("lets", law == 2, () -> x.lets(asked, 0, 1));
+            Check.dueIf("twice", law == 1, () -> x.lets(asked, 0, 0));
+        }
+        Check.due("parting", of(2, 3, 0), () -> x.parting(0, 3));
+    }
+
+    /** A text with a fault leaves nothing to the law that is read next. */
+    private static void afterFaults() {
+        KeepingHands x = new KeepingHands();
+        Check.law(x, "any answers all;any owes 5;any lets 1;any twice;#");
+        Check.due("empty", 0, () -> Check.law(x, ""));
+        Check.due("nothing answers", 0, () -> x.words(0, 0, 0, 9, 0, 0));
+        Check.due("nothing is owed", 9, () -> x.words(0, 0, 0, 9, 0, 2));
+        Check.dueIf("nothing is let", false, () -> x.lets(0, 0, 1));
+        Check.dueIf("nothing is twice", false, () -> x.lets(0, 0, 0));
+        Check.law(x, "any answers all;any lets 1,2,3;#");
+        Check.due("small", 1, () -> Check.law(x, "free answers worn;free lets 2;"));
+        Check.due("no other harm", 0, () -> x.words(1, of(0, 1, 0), 0, 9, 0, 0));
+        Check.dueIf("no other term", false, () -> x.lets(1, 0, 1));
+        Check.due("a text that opens", -9, () -> Check.law(x, "any owes (((((("));
+        Check.due("six are open again", 2, () -> Check.law(x, "any owes ((((((1))))));"));
+        for (int i = 0; i < 9; i++) {
+            Check.due("long", -9, () -> Check.law(x, "any owes 1".concat("+1".repeat(240)) + "#"));
+        }
+        Check.due("after long ones", 3, () -> Check.law(x, "any owes 1".concat("+1".repeat(240)) + ";"));
+        Check.due("its sum", 241, () -> x.words(3, 0, 0, 0, 0, 2));
+    }
+
     private static void force() {
         KeepingHands x = with("any answers all;", "any owes 7;");
         Check.due("force 1", NONE, () -> x.force(1));
@@ -323,6 +398,16 @@ public final class LawsTest {
         holds("not [1=2 and 1=2]", 0, true);
         holds("not 1=1 or 1=1", 0, true);
         holds("not not 1=1", 0, true);
+        holds("not not 1=2", 0, false);
+        holds("not not not 1=1", 0, false);
+        for (String so : new String[] {"1=1", "1<2", "2>1", "not 1=2"}) {
+            holds("not " + so, 0, false);
+            for (String also : new String[] {"1=1", "1<2", "2>1", "not 1=2"}) {
+                holds(so + " and " + also, 0, true);
+                holds("not [" + so + " or " + also + "]", 0, false);
+                holds(so + " and not " + also, 0, false);
+            }
+        }
         holds("1=2 or 1=3 or 1=1", 0, true);
         holds("1=1 and 2=2 and 3=4", 0, false);
         holds("[1=2]", 0, false);

@@ -8,6 +8,7 @@ public final class QuestionsTest {
     public static void main(String[] args) {
         question();
         inCase();
+        hereAsTold();
         theLaterCounts();
         otherHarmAndDay();
         withoutHarm();
@@ -86,6 +87,42 @@ public final class QuestionsTest {
         Check.due("hand -1", Check.NO_SUCH, () -> x.inCase(0, -1));
     }
 
+    /** All but what is asked is in a case as it was told. */
+    private static void hereAsTold() {
+        KeepingHands x = new KeepingHands();
+        Check.law(x, "lent answers all if fault=1 or there=1;any lets 2;lent owes 10*term+value+late+passed;"
+            + "hired swears all;hired owes days;");
+        x.force(0);
+        x.pass(LENT, 5, 6, 2, false);
+        x.pass(3, 6, 9, 0, true);
+        x.harm(LOST, 8);
+        x.value(50);
+        x.purse(1, 40);
+        x.fact(1, 1, true);
+        x.question(0, 1, 0);
+        row("owner", b -> x.inCase(b, 0), 8, 8);
+        row("hand 1", b -> x.inCase(b, 1), 40, 40);
+        row("hand 2, which answers to the owner", b -> x.inCase(b, 2), 2, 2);
+        row("frees", x::frees, 0, 0, 2);
+        x.purse(1, 9999);
+        x.value(100);
+        row("hand 1 by its term", b -> x.inCase(b, 1), 100, 100);
+        x.fact(1, 1, false);
+        x.fact(2, 3, true);
+        row("hand 1 by its fault alone", b -> x.inCase(b, 1), 0, 100);
+        row("hand 2 swore", b -> x.inCase(b, 2), 0, 0);
+        x.value(9999);
+        x.purse(1, 9000);
+        row("hand 1 by its purse", b -> x.inCase(b, 1), 0, 9000);
+        x.value(0);
+        x.pass(LENT, 7, 9, 2, true);
+        x.pass(LENT, 8, 9, 2, true);
+        x.fact(4, 0, true);
+        row("hand 4 by its term, to hand 3", b -> x.inCase(b, 4), 20, 20);
+        row("hand 3 gets it", b -> x.inCase(b, 3), -20, -20);
+        Check.due("frees hand 4 of nothing", 0, () -> x.frees(4));
+    }
+
     private static void theLaterCounts() {
         KeepingHands x = lent(1, "lent answers hurt;lent answers lost if fault=1;lent owes 10+days;");
         x.question(0, 1, 0);
@@ -131,6 +168,7 @@ public final class QuestionsTest {
         Check.due("the day does not matter by itself", 3, x::least);
         KeepingHands y = new KeepingHands();
         y.question(4, 0, HURT);
+        Check.due("what the owner bears is to be settled, too", 1, y::least);
         row("a new object, on day 0", b -> y.inCase(b, 0), 0, 100);
         y.pass(LENT, 0, 0, 0, true);
         Check.law(y, "any answers all;");
@@ -147,9 +185,20 @@ public final class QuestionsTest {
         x.question(4, 0, HURT);
         row("sure", x::sure, 1, 1, 0, 1);
         row("cases", x::cases, 4, 2, 0, 2);
+        x.question(5, 0, 25);
+        x.find(0, true);
+        row("cases anew", x::cases, 4, 0, 4, 0);
+        x.question(5, 0, 35);
+        x.question(2, 1, 0);
+        row("cases anew again", x::cases, 16, 0, 8, 8);
         x.value(0);
         row("nothing is borne", x::sure, 0, 0, 0, 0);
         row("in no case", x::cases, 0, 0, 0, 0);
+        KeepingHands one = lent(1, "lent answers all if fault=1 and use=1;");
+        one.question(0, 1, 0);
+        one.question(2, 1, 0);
+        row("in one case of four", one::cases, 3, 1);
+        row("that is enough for may", one::sure, 1, 1);
         KeepingHands y = lent(2, "lent answers lost;hired answers all;hired owes 30;");
         y.pass(3, 20, 20, 0, true);
         y.question(0, 1, 0);

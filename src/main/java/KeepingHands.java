@@ -1164,11 +1164,11 @@ public final class KeepingHands {
         }
 
         void setTo(Chain other) {
-            for (int i = 0; i < MOST_HANDS; i++) {
-                hands[i].setTo(other.hands[i]);
+            for (int k = 0; k < other.handCount; k++) {
+                hands[k].setTo(other.hands[k]);
             }
-            for (int i = 0; i < MOST_QUESTIONS; i++) {
-                questions[i].setTo(other.questions[i]);
+            for (int q = 0; q < other.questionCount; q++) {
+                questions[q].setTo(other.questions[q]);
             }
             goods.setTo(other.goods);
             handCount = other.handCount;
