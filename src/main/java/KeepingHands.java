@@ -753,7 +753,7 @@ public final class KeepingHands {
                 case Law.OWES: return readSum();
                 case Law.LETS: return readTerms();
                 case Law.TWICE: return true;
-                default: return readHarms() && readIf();
+                default: return readHarms() && (!takeWord("if") || readEither());
             }
         }
 
@@ -776,14 +776,6 @@ public final class KeepingHands {
             return true;
         }
 
-        private boolean readIf() {
-            if (!isWord("if")) {
-                return true;
-            }
-            nextToken();
-            return readEither();
-        }
-
         private boolean readTerms() {
             boolean right = readTerm();
             for (int i = 0; right && i < length && kind == ','; i++) {
@@ -804,8 +796,7 @@ public final class KeepingHands {
 
         private boolean readEither() {
             boolean right = readBoth();
-            for (int i = 0; right && i < length && isWord("or"); i++) {
-                nextToken();
+            for (int i = 0; right && i < length && takeWord("or"); i++) {
                 right = readBoth();
                 law.addStep(Law.OR);
             }
@@ -814,8 +805,7 @@ public final class KeepingHands {
 
         private boolean readBoth() {
             boolean right = readCondition();
-            for (int i = 0; right && i < length && isWord("and"); i++) {
-                nextToken();
+            for (int i = 0; right && i < length && takeWord("and"); i++) {
                 right = readCondition();
                 law.addStep(Law.AND);
             }
@@ -924,13 +914,25 @@ public final class KeepingHands {
         }
 
         private boolean leave(int sign) {
+            if (kind != sign) {
+                return fail(MISPLACED);
+            }
             open--;
-            return take(sign);
+            nextToken();
+            return true;
         }
 
         private boolean take(int sign) {
             if (kind != sign) {
                 return fail(MISPLACED);
+            }
+            nextToken();
+            return true;
+        }
+
+        private boolean takeWord(String word) {
+            if (wordOf(word) != 0) {
+                return false;
             }
             nextToken();
             return true;
@@ -943,8 +945,8 @@ public final class KeepingHands {
             return number >= least && number <= most || fail(NO_SUCH_NUMBER);
         }
 
-        private boolean fail(int number) {
-            fault = number;
+        private boolean fail(int sort) {
+            fault = sort;
             place = from;
             return false;
         }
