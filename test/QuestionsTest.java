@@ -275,6 +275,13 @@ public final class QuestionsTest {
         Check.due("hand 8 hangs on the last", 7, () -> x.hangs(8));
         x.value(1);
         Check.due("the owner hangs on hand 1 now", 0, () -> x.hangs(0));
+        KeepingHands none = lent(1, "");
+        for (int i = 0; i < 8; i++) {
+            none.question(i % 4, 1, 0);
+        }
+        Check.due("none of eight", 0, none::least);
+        Check.due("the owner bears in all cases", 256, () -> none.cases(0));
+        Check.due("and hangs on nothing", NONE, () -> none.hangs(0));
         KeepingHands y = lent(2, "lent answers all if fault=1 and use=1;");
         y.question(0, 2, 0);
         y.question(1, 2, 0);
