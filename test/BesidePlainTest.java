@@ -11,7 +11,12 @@ public final class BesidePlainTest {
     private static final String[] HARMS = {"worn", "hurt", "died", "lost", "stolen", "forced", "all", "all"};
     private static final String[] NAMES = {"fault", "there", "use", "late", "passed", "term", "value", "days"};
 
+    // What an object answers behind so many calls is free.
+    private static final int MOST_CALLS = 512;
+    private static final int CALLS_OF_THE_DEAREST_STEP = 30;
+
     private long seed;
+    private int calls;
     private KeepingHands x;
     private Plain plain;
 
@@ -183,8 +188,11 @@ public final class BesidePlainTest {
         int harm = upTo(5);
         int harmDay = upTo(day + 30);
         same(run, "harm", () -> x.harm(harm, harmDay), () -> plain.harm(harm, harmDay));
-        for (int i = 0; i < 300; i++) {
+        for (int i = 0; i < 300 && calls <= MOST_CALLS - CALLS_OF_THE_DEAREST_STEP; i++) {
             step(run, i);
+        }
+        if (calls > MOST_CALLS) {
+            throw new IllegalStateException("run " + run + " made " + calls + " calls");
         }
     }
 
@@ -282,7 +290,8 @@ public final class BesidePlainTest {
         same(run, "question", () -> x.question(sort, hand, other), () -> plain.question(sort, hand, other));
     }
 
-    private static void same(int run, String what, Check.Call got, Check.Call want) {
+    private void same(int run, String what, Check.Call got, Check.Call want) {
+        calls++;
         int due;
         try {
             due = want.answer();
