@@ -597,6 +597,14 @@ public final class ChainEdgesTest {
         row("hand 2 is the holder", k -> x.must(k) ? 1 : 0, 0, 1, 1);
         x.value(0);
         row("though nothing is owed", k -> x.must(k) ? 1 : 0, 0, 1, 1);
+        x.harm(0, 10);
+        row("hand 1 is the holder again", k -> x.must(k) ? 1 : 0, 0, 1, 0);
+        x.harm(0, 9);
+        row("all are behind the holder again", k -> x.must(k) ? 1 : 0, 0, 0, 0);
+        x.harm(0, 20);
+        row("two again", k -> x.must(k) ? 1 : 0, 0, 1, 1);
+        x.harm(NONE, 20);
+        row("no harm again", k -> x.must(k) ? 1 : 0, 0, 0, 0);
     }
 
     // Promise 20: "it has SWEARS, and no ANSWERS, and has not sworn."

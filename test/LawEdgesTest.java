@@ -12,6 +12,7 @@ public final class LawEdgesTest {
         lawOfNoBytes();
         lawEmptiesTheTape();
         lawFault();
+        lawFaultLeavesNothing();
         lawFull();
         lawFullIsNotRead();
         lawOfTooMany();
@@ -176,6 +177,34 @@ public final class LawEdgesTest {
         Check.dueIf("and has no more", false, () -> x.lets(0, 0, 1));
         Check.due("law 1 is none", Check.WRONG_ARGUMENT, () -> x.force(1));
         Check.due("the second law is 1", 1, () -> Check.law(x, ""));
+    }
+
+    // Promise 3: "or its FAULT less 10": then it is no LAW, and nothing of it is in the one that is read next.
+    private static void lawFaultLeavesNothing() {
+        String[] faults = {"any answers all;any swears all;any owes 5;any lets 1,2,3;any twice;mixed last;#",
+            "any twice;".repeat(24) + "any", "any owes ((((((1+(", "any answers all if not not not not not not ",
+            "any answers all if [[[[[[1=10000", "any owes 1" + "+1".repeat(240) + "#"};
+        for (String text : faults) {
+            KeepingHands x = new KeepingHands();
+            Check.dueIf("a fault in " + text, true, () -> Check.law(x, text) < -6);
+            Check.due("an empty law", 0, () -> Check.law(x, ""));
+            Check.due("no answers", 0, () -> x.words(0, 0, 0, 9, 0, 0));
+            Check.due("no swears", 0, () -> x.words(0, 0, 0, 9, 0, 1));
+            Check.due("value is owed", 9, () -> x.words(0, 0, 0, 9, 0, 2));
+            Check.dueIf("nothing twice", false, () -> x.lets(0, 0, 0));
+            Check.dueIf("nothing is let", false, () -> x.lets(0, 0, 1));
+            x.force(0);
+            x.put(0, 1);
+            Check.due("nothing mixed", 0, () -> x.share(0, 1));
+            Check.dueIf("a fault again", true, () -> Check.law(x, text) < -6);
+            Check.due("a law of one harm, one term", 1, () -> Check.law(x, "any answers worn;any lets 2;"));
+            Check.due("no other harm", 0, () -> x.words(1, 32, 0, 9, 0, 0));
+            Check.dueIf("no other term", false, () -> x.lets(1, 0, 1));
+            Check.dueIf("a fault once more", true, () -> Check.law(x, text) < -6);
+            Check.due("six are open again", 2, () -> Check.law(x, "any owes ((((((1))))));"));
+            Check.due("24 clauses again", 3, () -> Check.law(x, "any owes 7;" + "any twice;".repeat(23)));
+            Check.due("the first of them", 7, () -> x.words(3, 0, 0, 0, 0, 2));
+        }
     }
 
     // Promise 3: "-1: there are 4"; section 1: "LAWS, numbered from 0 on, 4 at most"

@@ -24,6 +24,7 @@ public final class QuestionEdgesTest {
         inCaseDay();
         inCaseLater();
         inCaseWithoutHarm();
+        inCaseAllElse();
         sureAboveNothing();
         sureInAll();
         mayInOne();
@@ -297,6 +298,35 @@ public final class QuestionEdgesTest {
         x.question(4, 0, HURT);
         row("a harm", b -> x.inCase(b, 1), 0, 0, 100, 100);
         row("it is in half of the cases", x::cases, 0, 2);
+    }
+
+    // Promise 23: "What a HAND BEARS in a CASE": all that is not asked is as it was told, name by name.
+    private static void inCaseAllElse() {
+        String[] names = {"fault", "there", "use", "late", "passed", "term", "value", "days"};
+        for (int what = 0; what < 8; what++) {
+            for (int round = 0; round < 2; round++) {
+                KeepingHands x = new KeepingHands();
+                Check.law(x, "any answers all;any lets 3;any owes 20+" + names[what] + ";");
+                x.force(0);
+                boolean so = round == 1;
+                x.value(so ? 50 : 90);
+                x.pass(LENT, 5, so ? 20 : 30, so ? 3 : 2, !so);
+                x.pass(LENT, so ? 21 : 30, 30, 0, true);
+                x.purse(2, 0);
+                for (int fact = 0; fact < 3; fact++) {
+                    x.fact(1, fact, so);
+                }
+                x.harm(LOST, 30);
+                x.question(3, 0, 0);
+                int w = what;
+                int name = what < 5 ? round : what == 5 ? 3 * round : what == 6 ? (so ? 50 : 90) : 25;
+                int due = Math.min(20 + name, so ? 50 : 90);
+                Check.due("name " + names[what], name, () -> x.name(1, w));
+                row("by " + names[what] + ", " + so, b -> x.inCase(b, 1), due, due);
+                x.purse(1, 1);
+                row("by its purse", b -> x.inCase(b, 1), 1, 1);
+            }
+        }
     }
 
     // Section 3: "BEARS something (above 0)"; promise 24: "SURE (2), else MAY (1), else 0."

@@ -37,6 +37,10 @@ public final class TextEdgesTest {
         divisionCuts();
         divisionByZero();
         bothSidesAreWorked();
+        comparedAtTheEnds();
+        leastAndMost();
+        notTurns();
+        allThatWaitsForSixOpen();
         answersWithoutClauses();
         owedAtLeastAndMost();
         owedByTheLast();
@@ -549,6 +553,56 @@ public final class TextEdgesTest {
         // What can't be read is a FAULT on a side that could not change the whole, too.
         Check.dueFault("any answers all if 1=1 or 1=;", 1, 28);
         Check.dueFault("any answers all if 1=2 and 1=10000;", 2, 29);
+    }
+
+    // Section 1: "E R E; R: <, > or =": of VALUES next to one another, and as far from one another as can be
+    private static void comparedAtTheEnds() {
+        String[] values = {LEAST, LEAST + "+1", "0-1", "0", "1", MOST + "-1", MOST};
+        for (int i = 0; i < values.length; i++) {
+            for (int j = 0; j < values.length; j++) {
+                holds(values[i] + "<" + values[j], i < j);
+                holds(values[i] + ">" + values[j], i > j);
+                holds(values[i] + "=" + values[j], i == j);
+            }
+        }
+    }
+
+    // Section 1: ""least" or "most" "(" E "," E ")"": of VALUES next to one another, alike, and far from one another
+    private static void leastAndMost() {
+        String[] values = {LEAST, "0-1", "0", "1", MOST};
+        for (int i = 0; i < values.length; i++) {
+            for (int j = 0; j < values.length; j++) {
+                alike("least(" + values[i] + "," + values[j] + ")", values[Math.min(i, j)]);
+                alike("most(" + values[i] + "," + values[j] + ")", values[Math.max(i, j)]);
+            }
+        }
+    }
+
+    // Section 1: "B: "not" B, "[" C "]", or E R E": one to six of not; it is of its B alone.
+    private static void notTurns() {
+        for (int nots = 0; nots <= 6; nots++) {
+            holds("not ".repeat(nots) + "1=1", nots % 2 == 0);
+            holds("not ".repeat(nots) + "1=2", nots % 2 == 1);
+        }
+        holds("not 1=2 and 1=2", false);
+        holds("not [1=2 and 1=2]", true);
+        holds("not 1=1 or 1=1", true);
+        holds("not [1=1 or 1=1]", false);
+        holds("1=1 or 1=1 and 1=2", true);
+        holds("[1=1 or 1=1] and 1=2", false);
+    }
+
+    // Section 1: six open ( [ and not, and in each of them all that can wait for its other side
+    private static void allThatWaitsForSixOpen() {
+        String sum = "1+1*";
+        String wait = "1=2 or 1=1 and ";
+        alike(sum + ("(" + sum).repeat(6) + "1" + ")".repeat(6), "8");
+        alike(sum + ("least(1+1*").repeat(6) + "1" + ",9)".repeat(6), "8");
+        alike(sum + ("most(1,1+1*").repeat(6) + "1" + ")".repeat(6), "8");
+        holds(wait + ("[" + wait).repeat(6) + "8=1+1*7" + "]".repeat(6), true);
+        holds(wait + ("[" + wait).repeat(3) + "8=5+1*" + ("(0+1*").repeat(3) + "3" + ")".repeat(3) + "]".repeat(3), true);
+        holds(wait + ("not [" + wait).repeat(3) + "8=5+1*3" + "]".repeat(3), false);
+        holds(wait + ("not [" + wait).repeat(2) + "8=5+1*" + ("most(0,0+1*").repeat(2) + "3" + "))" + "]]", true);
     }
 
     // Section 1: "a LAW has ANSWERS, if some answers CLAUSE .. has no C, or one that holds; SWEARS likewise"
