@@ -1,6 +1,9 @@
 import java.util.NoSuchElementException;
 
-/** Many long runs of mixed calls, on the class and on Plain at once: every answer must be alike. */
+/**
+ * Promises 1 to 39, one behind the other on the same object ("An object is used for at most 512 calls"): many long runs
+ * of mixed calls, on the class and on Plain at once; every answer must be alike.
+ */
 public final class BesidePlainTest {
     private static final String[] WORDS = {"free", "paid", "lent", "hired", "pledge", "work", "any", "worn", "hurt",
         "died", "lost", "stolen", "forced", "all", "answers", "swears", "owes", "lets", "twice", "mixed", "parts",

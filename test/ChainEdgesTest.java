@@ -690,6 +690,10 @@ public final class ChainEdgesTest {
         row("by law 3, the last", k -> x.beside(3, k), 70, 30, 0);
         x.fact(1, 3, true);
         row("by law 3, one swore", k -> x.beside(3, k), 100, 0, 0);
+        x.force(NONE);
+        row("by law 0, though none is in force", k -> x.beside(0, k), 0, 100, 0);
+        x.force(0);
+        row("by law 0, which is itself in force", k -> x.beside(0, k), 0, 100, 0);
         Refused.is("beside by the law in force", 19, Refused::plenty, y -> y.beside(0, 0));
         Refused.is("beside by another", 80, Refused::plenty, y -> y.beside(1, 2));
     }

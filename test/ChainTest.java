@@ -51,6 +51,7 @@ public final class ChainTest {
         }
     }
 
+    // Promise 8: "A PASSING: the new HAND; -1: there are 12 besides HAND 0; -2: the DAY is below that ahead"
     private static void pass() {
         KeepingHands x = new KeepingHands();
         int[][] wrong = {{-1, 0, 0, 0}, {6, 0, 0, 0}, {0, -1, 0, 0}, {0, 1000, 0, 0}, {0, 0, -1, 0}, {0, 0, 1000, 0},
@@ -78,6 +79,7 @@ public final class ChainTest {
         Check.due("no more", Check.NO_SUCH, () -> x.hand(13, 1));
     }
 
+    // Promise 9: "Of a HAND: 0 KEEPING, 1 DAY, 2 TILL, 3 TERM, 4 LEAVE (1, 0), 5 PURSE (0 to 4 of HAND 0: NONE)."
     private static void hand() {
         KeepingHands x = new KeepingHands();
         x.pass(4, 7, 3, 2, true);
@@ -102,6 +104,7 @@ public final class ChainTest {
         Check.due("hand 3 what 6", Check.NO_SUCH, () -> x.hand(3, 6));
     }
 
+    // Promise 10: "VALUE: what it was. IllegalArgumentException: it is none such (so below)."
     private static void value() {
         KeepingHands x = new KeepingHands();
         Check.due("at first", 100, () -> x.value(9999));
@@ -112,6 +115,7 @@ public final class ChainTest {
         Check.due("7 stays", 7, () -> x.count(7));
     }
 
+    // Promise 11: "The PURSE of a HAND: what it was."
     private static void purse() {
         KeepingHands x = lent(1, "");
         Check.due("at first", 9999, () -> x.purse(1, 0));
@@ -124,6 +128,7 @@ public final class ChainTest {
         Check.due("hand -1", Check.NO_SUCH, () -> x.purse(-1, 0));
     }
 
+    // Promise 12: "A FACT (0 to 3) of a HAND: whether it was so."
     private static void fact() {
         KeepingHands x = lent(2, "");
         for (int k = 0; k <= 2; k++) {
@@ -144,6 +149,7 @@ public final class ChainTest {
         Check.due("hand -1", Check.NO_SUCH, () -> x.fact(-1, 0, true) ? 1 : 0);
     }
 
+    // Promise 13: "A HARM (NONE: none) befell on a DAY: the one that was told."
     private static void harm() {
         KeepingHands x = new KeepingHands();
         Check.due("none at first", NONE, () -> x.harm(5, 999));
@@ -158,6 +164,7 @@ public final class ChainTest {
         Check.due("died stays", 2, () -> x.harm(2, 0));
     }
 
+    // Promise 14: "HOLDER; NONE: there is no HARM."
     private static void holder() {
         KeepingHands x = lent(3, "any answers all;");
         x.pass(LENT, 30, 30, 0, true);
@@ -174,6 +181,7 @@ public final class ChainTest {
         row("claim with the owner", x, x::claim, 0, 0, 0, 0, 0);
     }
 
+    // Promise 15: "NONE: it is HAND 0, behind the HOLDER, or there is no HARM."
     private static void name() {
         KeepingHands x = new KeepingHands();
         x.pass(FREE, 10, 25, 1, false);
@@ -201,6 +209,7 @@ public final class ChainTest {
         Check.due("hand -1", Check.NO_SUCH, () -> x.name(-1, 0));
     }
 
+    // Promise 15, section 2: "term: TERM if the LAW in force LETS it for its KEEPING, else 0"
     private static void termByLaw() {
         KeepingHands x = new KeepingHands();
         Check.law(x, "free lets 1;paid lets 1,3;any lets 3;");
@@ -216,6 +225,7 @@ public final class ChainTest {
         row("term by the law", x, k -> x.name(k, 5), NONE, 1, 0, 1, 0, 3, 0);
     }
 
+    // Promise 16: "CLAIM (0 likewise)."
     private static void claim() {
         KeepingHands x = lent(0, "lent answers lost;lent swears hurt if fault=1;hired answers all if passed=1;"
             + "lent owes value-days;any lets 2;hired owes 10*term+late;");
@@ -242,6 +252,7 @@ public final class ChainTest {
         row("the owner bears all", x, x::bears, 100, 0, 0, 0, 0);
     }
 
+    // Promise 17: "WHOM; NONE likewise."
     private static void whom() {
         KeepingHands x = new KeepingHands();
         boolean[] leave = {true, false, false, true, false, true};
@@ -258,6 +269,7 @@ public final class ChainTest {
         row("with the owner", x, x::whom, NONE, NONE, NONE, NONE, NONE, NONE, NONE, NONE);
     }
 
+    // Promise 18: "What a HAND PAYS in the END (0 likewise)."
     private static void pays() {
         KeepingHands x = lent(3, "any answers all;");
         x.harm(LOST, 30);
@@ -278,6 +290,7 @@ public final class ChainTest {
         row("no harm", x, x::pays, 0, 0, 0, 0);
     }
 
+    // Promise 18, section 2: "those who answer to HAND 0 pay, by numbers, no more than what VALUE still lacks"
     private static void payOwner() {
         KeepingHands x = new KeepingHands();
         Check.law(x, "any answers all;any owes 60;paid owes 130;");
@@ -301,6 +314,7 @@ public final class ChainTest {
         row("first by claims, then by what lacks", x, x::bears, 0, 0, 0, -50, 50);
     }
 
+    // Promise 19: "What it BEARS."
     private static void bears() {
         KeepingHands x = lent(2, "any answers all;");
         row("no harm", x, x::bears, 0, 0, 0);
@@ -314,6 +328,7 @@ public final class ChainTest {
         row("all of it", x, x::bears, 9999, 0, 0);
     }
 
+    // Promise 20: "it has SWEARS, and no ANSWERS, and has not sworn."
     private static void must() {
         KeepingHands x = lent(4, "lent swears all if fault=1;lent answers all if use=1;lent owes 0;");
         Check.dueIf("no harm", false, () -> x.must(1));
@@ -337,6 +352,7 @@ public final class ChainTest {
         row("no harm again", x, k -> x.must(k) ? 1 : 0, 0, 0, 0, 0, 0);
     }
 
+    // Promise 21: "By how much less a HAND would BEAR if it swore (all else as it is; 0 if it has sworn)."
     private static void frees() {
         KeepingHands x = lent(3, "lent swears all;lent answers all if use=1;");
         row("no harm", x, x::frees, 0, 0, 0, 0);
@@ -353,7 +369,7 @@ public final class ChainTest {
         row("one who swore and gets", x, x::bears, 100, -30, 30, 0);
     }
 
-    /** What was so while it held the thing is not so when the day shows that it did not. */
+    // Promises 16 to 21: "(0 likewise)", "NONE likewise": also of one who held the thing till another DAY was told
     private static void behindTheHolder() {
         KeepingHands x = lent(2, "any swears all;");
         x.harm(LOST, 20);
@@ -371,6 +387,7 @@ public final class ChainTest {
         row("must by none", x, k -> x.must(k) ? 1 : 0, 0, 0, 0);
     }
 
+    // Section 2: "a new one (1, 2, .. 12)": what is promised of a HAND holds of the last.
     private static void fullHouse() {
         KeepingHands x = lent(12, "lent answers all if fault=1;lent swears all if use=1;");
         x.harm(HURT, 999);
@@ -389,6 +406,7 @@ public final class ChainTest {
         Check.due("least", 3, x::least);
     }
 
+    // Promise 9: "NoSuchElementException: no such HAND (so below)"
     private static void noSuchHands() {
         KeepingHands x = lent(1, "any answers all;");
         for (int hand : new int[] {-1, 2, 13, Integer.MAX_VALUE, Integer.MIN_VALUE}) {
@@ -402,6 +420,7 @@ public final class ChainTest {
         }
     }
 
+    // Promise 36: "What a HAND would BEAR by another LAW."
     private static void beside() {
         KeepingHands x = lent(2, "any answers all;");
         Check.law(x, "lent answers all if late=1;lent lets 2;lent owes 10*term;");

@@ -7,7 +7,7 @@ import java.util.List;
 import java.util.Set;
 import java.util.TreeSet;
 
-/** The public face is just the one that the document tells. */
+/** "The public face": the class has just the one that the document tells, no more and no less. */
 public final class FaceTest {
     private static final List<String> METHODS = List.of(
         "int feed(int,int,int,int,int)", "int law(int) IAE", "int fault()", "int force(int) IAE",

@@ -416,6 +416,13 @@ public final class FoundEdgesTest {
                 Check.due("told " + first + " and " + second, first != 50 ? 1 : second != 50 ? 2 : NONE, x::wrong);
             }
         }
+        x.judge(1, 50);
+        x.judge(2, 50);
+        x.purse(1, 0);
+        x.purse(3, 0);
+        Check.due("what is paid is no matter", NONE, x::wrong);
+        x.judge(3, 0);
+        Check.due("told as it is paid, not as it is owed", 3, x::wrong);
     }
 
     // Promise 34: the last HAND of twelve is looked at, too.

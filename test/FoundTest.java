@@ -38,6 +38,7 @@ public final class FoundTest {
         }
     }
 
+    // Promise 29: "With whom TITLE is."
     private static void title() {
         KeepingHands x = with("any answers lost;free answers lost;");
         for (int k = 1; k <= 3; k++) {
@@ -65,6 +66,7 @@ public final class FoundTest {
         Check.due("no law", 0, x::title);
     }
 
+    // Promise 29, section 4: "TITLE goes to it (of several the one with the least number)."
     private static void titleOfSeveral() {
         KeepingHands x = with("lent answers all;paid answers all;paid owes 60;work answers all;work owes 200;");
         x.value(60);
@@ -87,6 +89,7 @@ public final class FoundTest {
         Check.due("one unit lacks for none", 0, x::title);
     }
 
+    // Promise 29, section 4: "PAYS its whole CLAIM, and that is VALUE or more (above 0)"
     private static void titleAndValue() {
         KeepingHands x = with("any answers all;any owes 50+10*fault;");
         x.pass(LENT, 0, 0, 0, true);
@@ -119,6 +122,7 @@ public final class FoundTest {
         Check.due("a claim of nothing", 0, y::title);
     }
 
+    // Promise 30: "What a HAND gets, the thing being FOUND."
     private static void found() {
         KeepingHands x = with("lent answers lost;any twice;");
         x.pass(LENT, 0, 0, 0, true);
@@ -130,6 +134,7 @@ public final class FoundTest {
         row("the owner", k -> x.found(k, 300), 300, 0);
     }
 
+    // Promise 30, section 4: "but twice that, if the LAW has TWICE for its KEEPING, its CLAIM is by SWEARS alone .."
     private static void foundTwice() {
         KeepingHands x = with("paid swears all;lent swears all;paid twice;lent answers all if fault=1;hired twice;");
         x.pass(PAID, 0, 0, 0, true);
@@ -153,6 +158,7 @@ public final class FoundTest {
         row("it swore", k -> y.found(k, 40), 40, 0);
     }
 
+    // Promise 30: "IllegalArgumentException: GROWN."
     private static void wrongFound() {
         KeepingHands x = with("");
         Check.due("grown -1", Check.WRONG_ARGUMENT, () -> x.found(0, -1));
@@ -161,6 +167,7 @@ public final class FoundTest {
         Check.due("hand -1", Check.NO_SUCH, () -> x.found(-1, 0));
     }
 
+    // Promise 31: "Goods are put: all there are; -1: there were 20 puttings."
     private static void put() {
         KeepingHands x = new KeepingHands();
         Check.due("owner -1", Check.WRONG_ARGUMENT, () -> x.put(-1, 0));
@@ -195,6 +202,7 @@ public final class FoundTest {
         return x;
     }
 
+    // Promise 32, section 4: "by parts each OWNER bears of it as its goods are of all"
     private static void parts() {
         KeepingHands x = goods("mixed last;mixed parts;");
         row("none lost", k -> x.share(k, 0), 0, 0, 0, 0, 0, 0);
@@ -204,6 +212,7 @@ public final class FoundTest {
         row("no goods", k -> y.share(k, 0), 0, 0, 0, 0, 0, 0);
     }
 
+    // Promise 32, section 4: "by last: what was put last is lost first."
     private static void last() {
         KeepingHands x = goods("mixed parts;mixed last;any twice;");
         row("none lost", k -> x.share(k, 0), 0, 0, 0, 0, 0, 0);
@@ -213,6 +222,7 @@ public final class FoundTest {
         row("all lost", k -> x.share(k, 47), 15 * 47, 30 * 47, 0, 2 * 47, 0, 0);
     }
 
+    // Promise 32, section 4: "without mixed: none bears."
     private static void withoutMixed() {
         KeepingHands x = goods("any twice;");
         row("a law without mixed", k -> x.share(k, 47), 0, 0, 0, 0, 0, 0);
@@ -226,6 +236,7 @@ public final class FoundTest {
         row("nothing is left of it", k -> x.share(k, 47), 0, 0, 0, 0, 0, 0);
     }
 
+    // Promise 32: "IllegalArgumentException: the OWNER, or they are not 0 to all the goods."
     private static void wrongShare() {
         KeepingHands x = goods("mixed parts;");
         Check.due("owner -1", Check.WRONG_ARGUMENT, () -> x.share(-1, 0));
@@ -234,6 +245,7 @@ public final class FoundTest {
         Check.due("lost 48", Check.WRONG_ARGUMENT, () -> x.share(0, 48));
     }
 
+    // Promise 33: "A JUDGEMENT: what was told. IllegalArgumentException: it is not 0 to 9,999."
     private static void judge() {
         KeepingHands x = with("");
         x.pass(LENT, 0, 0, 0, true);
@@ -249,6 +261,7 @@ public final class FoundTest {
         Check.due("8 stays", 8, () -> x.judge(1, 8));
     }
 
+    // Promise 34: "The first HAND (from 1 on) whose JUDGEMENT is not its CLAIM; NONE."
     private static void wrong() {
         KeepingHands x = with("lent answers all;");
         Check.due("no hands", NONE, x::wrong);

@@ -16,6 +16,7 @@ public final class ImagesTest {
         Check.end();
     }
 
+    // Promise 37: "how many there are; -1: there are 3."; promise 38: "how many are left; -1: there is none."
     private static void howMany() {
         KeepingHands x = new KeepingHands();
         Check.due("none to restore", -1, x::restore);
@@ -36,6 +37,7 @@ public final class ImagesTest {
         Check.due("restore none", -1, x::restore);
     }
 
+    // Promise 38: "All is as in the latest IMAGE, which is gone"
     private static void latestFirst() {
         KeepingHands x = new KeepingHands();
         for (int v = 1; v <= 3; v++) {
@@ -53,6 +55,7 @@ public final class ImagesTest {
         Check.due("nothing to restore", 9, () -> x.count(7));
     }
 
+    // Promise 37: "(all of section 2, .. JUDGEMENTS, .. the LAW in force)"
     private static void holdsTheChain() {
         KeepingHands x = new KeepingHands();
         Check.law(x, "any answers all;");
@@ -108,6 +111,7 @@ public final class ImagesTest {
         Check.due("its judgement is new", 0, () -> x.judge(2, 0));
     }
 
+    // Promise 37: "(.. QUESTIONS ..)"
     private static void holdsQuestions() {
         KeepingHands x = new KeepingHands();
         x.question(4, 0, LOST);
@@ -129,6 +133,7 @@ public final class ImagesTest {
         Check.due("day", 1, x::holder);
     }
 
+    // Promise 37: "(.. goods ..)"
     private static void holdsGoods() {
         KeepingHands x = new KeepingHands();
         Check.law(x, "mixed last;");
@@ -148,6 +153,7 @@ public final class ImagesTest {
         Check.due("the new last", 34 * 3, () -> x.share(4, 3));
     }
 
+    // Promise 37: "An IMAGE of the CHAIN": LAWS and the TAPE are not in it.
     private static void holdsNoLaws() {
         KeepingHands x = new KeepingHands();
         x.image();
@@ -160,6 +166,7 @@ public final class ImagesTest {
         Check.due("none was in force", NONE, () -> x.force(NONE));
     }
 
+    // Promise 38: "All is as in the latest IMAGE": whatever was told since.
     private static void isACopy() {
         KeepingHands x = new KeepingHands();
         x.pass(LENT, 1, 2, 0, true);
@@ -175,6 +182,7 @@ public final class ImagesTest {
         Check.dueIf("fault", false, () -> x.fact(1, 0, false));
     }
 
+    // Promise 39: "0 LAWS, 1 HANDS, 2 QUESTIONS, 3 all goods, 4 puttings, 5 IMAGES, 6 bytes of the TAPE, 7 VALUE"
     private static void count() {
         KeepingHands x = new KeepingHands();
         Check.law(x, "any answers all;");

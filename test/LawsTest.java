@@ -39,6 +39,7 @@ public final class LawsTest {
         return 32 * (6 * keeping + harm) + bits;
     }
 
+    // Promise 1: "No LAWS, a CHAIN of HAND 0 alone."
     private static void newObject() {
         KeepingHands x = new KeepingHands();
         int[] due = {0, 1, 0, 0, 0, 0, 0, 100, -1, -1};
@@ -57,6 +58,7 @@ public final class LawsTest {
         Check.due("new: restore", -1, x::restore);
     }
 
+    // Promise 2: "Twenty bytes come on the TAPE, of each number the highest first: how many there are; NONE .."
     private static void feed() {
         KeepingHands x = new KeepingHands();
         for (int i = 1; i <= 25; i++) {
@@ -74,6 +76,7 @@ public final class LawsTest {
         Check.due("a negative number is four bytes too", -9, () -> x.law(1));
     }
 
+    // Promise 3: "The first n bytes of the TAPE (empty then) are a LAW: its number; or its FAULT less 10; -1: there are 4"
     private static void law() {
         KeepingHands x = new KeepingHands();
         Check.due("law of nothing", 0, () -> x.law(0));
@@ -104,6 +107,7 @@ public final class LawsTest {
         }
     }
 
+    // Section 1, FAULTS: "1 what can't stand there (at the length, if the text ends too early)"
     private static void misplaced() {
         Check.dueFault(";", 1, 0);
         Check.dueFault("  lend twice;", 1, 2);
@@ -173,6 +177,7 @@ public final class LawsTest {
         Check.dueFault("lent owes /;", 1, 10);
     }
 
+    // Section 1, FAULTS: "2 an N that is none such"
     private static void noSuchNumbers() {
         Check.dueFault("lent owes 10000;", 2, 10);
         Check.dueFault("lent owes 1+  99999;", 2, 14);
@@ -189,6 +194,7 @@ public final class LawsTest {
         Check.dueFault("lent owes 10000", 2, 10);
     }
 
+    // Section 1, FAULTS: "3 a 25th CLAUSE, or a 7th of ( [ and not that is open at one time (a not till its B ends)"
     private static void tooMany() {
         String full = "any twice;".repeat(24);
         Check.dueRight(full);
@@ -222,6 +228,7 @@ public final class LawsTest {
         Check.dueFault("any owes least(((((((1)))))),2);", 3, 20);
     }
 
+    // Section 1, FAULTS: "the first from the left, at its first byte"; "of one the least."
     private static void leastFault() {
         String full = "any twice;".repeat(24);
         Check.dueFault(full + "anu twice;", 1, 240);
@@ -236,6 +243,7 @@ public final class LawsTest {
         Check.dueFault("any owes # 10000", 1, 9);
     }
 
+    // Promise 4: "The place of the FAULT of the latest law() that threw nothing; NONE without."
     private static void fault() {
         KeepingHands x = new KeepingHands();
         Check.law(x, "any twice;#");
@@ -258,7 +266,7 @@ public final class LawsTest {
         Check.due("not read: no fault", NONE, x::fault);
     }
 
-    /** Behind the first n bytes nothing is read, though it would go on. */
+    // Promise 3: "The first n bytes of the TAPE .. are a LAW": behind them nothing is read, though it would go on.
     private static void cutShort() {
         KeepingHands x = new KeepingHands();
         Check.feed(x, "any twices;");
@@ -272,6 +280,7 @@ public final class LawsTest {
         Check.due("at the length of these", 14, x::fault);
     }
 
+    // Section 1: "texts of up to 500 bytes"; promise 2: "NONE, doing nothing, if there would be more than 500."
     private static void fullTape() {
         Check.dueFault("any owes 1 ".concat(" ".repeat(489)), 1, 500);
         Check.dueFault(" ".repeat(495) + "twice", 1, 495);
@@ -291,6 +300,7 @@ public final class LawsTest {
         Check.dueIf("not 3", false, () -> y.lets(3, 0, 3));
     }
 
+    // Section 1: "At most 24 CLAUSES"
     private static void fullLaw() {
         KeepingHands x = with("mixed parts;".repeat(24), "free twice;".repeat(23) + "lent owes 3;",
             "lent owes 3;" + "free lets 1;".repeat(23), "lent answers lost;".repeat(24));
@@ -305,7 +315,7 @@ public final class LawsTest {
         Check.due("parting", of(2, 3, 0), () -> x.parting(0, 3));
     }
 
-    /** A text with a fault leaves nothing to the law that is read next. */
+    // Promise 3: "or its FAULT less 10": such a text leaves nothing to the law that is read next.
     private static void afterFaults() {
         KeepingHands x = new KeepingHands();
         Check.law(x, "any answers all;any owes 5;any lets 1;any twice;#");
@@ -327,6 +337,7 @@ public final class LawsTest {
         Check.due("its sum", 241, () -> x.words(3, 0, 0, 0, 0, 2));
     }
 
+    // Promise 5: "A LAW (NONE: none) is in force: the one that was. IllegalArgumentException: no such LAW"
     private static void force() {
         KeepingHands x = with("any answers all;", "any owes 7;");
         Check.due("force 1", NONE, () -> x.force(1));
@@ -348,6 +359,7 @@ public final class LawsTest {
         Check.due("swears by " + law, swears, () -> x.words(0, of, 2, 50, days, 1));
     }
 
+    // Section 1: "a LAW has ANSWERS, if some answers CLAUSE for that KEEPING (or any) and that HARM (or all) .."
     private static void answers() {
         String[] keepings = {"free", "paid", "lent", "hired", "pledge", "work", "any"};
         String[] harms = {"worn", "hurt", "died", "lost", "stolen", "forced", "all"};
@@ -377,6 +389,7 @@ public final class LawsTest {
         says("any answers all if " + condition + ";", of(3, 4, bits), 9, due ? 1 : 0, 0);
     }
 
+    // Section 1: "C: A { "or" A }. A: B { "and" B }. B: "not" B, "[" C "]", or E R E; R: <, > or =."
     private static void conditions() {
         String[] names = {"fault", "there", "use", "late", "passed"};
         for (int i = 0; i < 5; i++) {
@@ -418,6 +431,7 @@ public final class LawsTest {
         Check.due(sum, due, () -> x.words(0, 31, 3, 40, 6, 2));
     }
 
+    // Section 1: "E: T { + or - T }. T: U { * or / U }."; "whole numbers of 32 bits that wrap; / cuts, by 0 it is 0"
     private static void order() {
         works("2+3*4", 14);
         works("(2+3)*4", 20);
@@ -449,6 +463,7 @@ public final class LawsTest {
             0, true);
     }
 
+    // Section 1: "OWED: the VALUE of the last owes CLAUSE .., 0 at least, 9,999 at most; without one: value."
     private static void owed() {
         works("9998+1", 9999);
         works("9999+1", 9999);
@@ -464,6 +479,7 @@ public final class LawsTest {
         Check.due("owed though nothing is answered", 9999, () -> x.words(0, of(0, 0, 0), 0, 9999, 0, 2));
     }
 
+    // Promise 6: "also the CASE (0 to 1,151), term (0 to 3), value, days (0 to 9,999), or what."
     private static void wrongWords() {
         KeepingHands x = with("any answers all;");
         Check.due("all at the top", 1, () -> x.words(0, 1151, 3, 9999, 9999, 0));
@@ -476,6 +492,7 @@ public final class LawsTest {
         }
     }
 
+    // Promise 7: "Whether a LAW LETS a TERM (1 to 3) for a KEEPING; or, with 0, has TWICE for it."
     private static void lets() {
         KeepingHands x = with("lent lets 1,3;any lets 2;work twice;", "any twice;", "lent lets 1;lent lets 2;");
         boolean[] lent = {false, true, true, true};
@@ -501,6 +518,7 @@ public final class LawsTest {
         Check.due("parting of " + law + " and itself", NONE, () -> x.parting(0, 0));
     }
 
+    // Promise 35: "PARTING; NONE: they are alike in all."
     private static void parting() {
         parts("", "", NONE);
         parts("any answers all;", "", 0);

@@ -168,7 +168,7 @@ public final class QuestionEdgesTest {
     private static void inCaseOfNoQuestion() {
         KeepingHands x = lent(2, "any answers all;");
         row("in the one case", k -> x.inCase(0, k), 0, 0, 100);
-        for (int bits : Refused.outside(0, 0)) {
+        for (int bits : Refused.notWithin(0, 0)) {
             Check.due("no case " + bits, Check.WRONG_ARGUMENT, () -> x.inCase(bits, 2));
         }
     }

@@ -40,6 +40,7 @@ public final class QuestionsTest {
         }
     }
 
+    // Promise 22: "A QUESTION: its number; -1: there are 8. IllegalArgumentException: the sort, or .. the HARM, DAY"
     private static void question() {
         KeepingHands x = lent(1, "");
         Check.due("sort -1", Check.WRONG_ARGUMENT, () -> x.question(-1, 0, 0));
@@ -68,6 +69,7 @@ public final class QuestionsTest {
         Check.due("no more", Check.WRONG_ARGUMENT, () -> x.inCase(256, 1));
     }
 
+    // Promise 23: "What a HAND BEARS in a CASE. IllegalArgumentException: no such CASE."
     private static void inCase() {
         KeepingHands x = lent(2, "lent answers all if fault=1 and there=0;");
         Check.due("one case without questions", 100, () -> x.inCase(0, 0));
@@ -87,7 +89,7 @@ public final class QuestionsTest {
         Check.due("hand -1", Check.NO_SUCH, () -> x.inCase(0, -1));
     }
 
-    /** All but what is asked is in a case as it was told. */
+    // Promise 23: "What a HAND BEARS in a CASE": all but what is asked is in it as it was told.
     private static void hereAsTold() {
         KeepingHands x = new KeepingHands();
         Check.law(x, "lent answers all if fault=1 or there=1;any lets 2;lent owes 10*term+value+late+passed;"
@@ -123,6 +125,7 @@ public final class QuestionsTest {
         Check.due("frees hand 4 of nothing", 0, () -> x.frees(4));
     }
 
+    // Section 3: "the later QUESTION counts."
     private static void theLaterCounts() {
         KeepingHands x = lent(1, "lent answers hurt;lent answers lost if fault=1;lent owes 10+days;");
         x.question(0, 1, 0);
@@ -143,6 +146,7 @@ public final class QuestionsTest {
         row("a third harm", b -> x.inCase(b, 1), 0, 0, 0, 0, 10, 10, 10, 10);
     }
 
+    // Section 3: "of sorts 4, 5: the other one, if 1, the told one, if 0"
     private static void otherHarmAndDay() {
         KeepingHands x = lent(2, "lent answers hurt;lent answers lost if late=1;");
         x.harm(LOST, 20);
@@ -157,6 +161,7 @@ public final class QuestionsTest {
         Check.due("the harm as told", LOST, () -> x.harm(LOST, 20));
     }
 
+    // Section 3: "4 (the HARM is another one), 5 (its DAY is another one)": where no HARM is told
     private static void withoutHarm() {
         KeepingHands x = lent(1, "lent answers hurt;lent owes days;");
         x.harm(NONE, 17);
@@ -176,6 +181,7 @@ public final class QuestionsTest {
         row("a new object, held by hand 1", b -> y.inCase(b, 1), 0, 100);
     }
 
+    // Promises 24, 25: "SURE (2), else MAY (1), else 0."; "In how many CASES it BEARS something."
     private static void sureAndCases() {
         KeepingHands x = lent(3, "lent answers lost;");
         row("sure without questions", x::sure, 0, 0, 0, 2);
@@ -216,6 +222,7 @@ public final class QuestionsTest {
         }
     }
 
+    // Promise 26: "HANGS; NONE."
     private static void hangs() {
         KeepingHands x = lent(2, "lent answers all if fault=1;");
         row("no questions", x::hangs, NONE, NONE, NONE);
@@ -231,6 +238,7 @@ public final class QuestionsTest {
         row("with a number less", x::hangs, 1, NONE, 0);
     }
 
+    // Promise 26, section 3: "or in just those in which it is 0."
     private static void hangsOnWhatIsNotSo() {
         KeepingHands x = lent(1, "lent answers all if fault=0;");
         x.question(0, 1, 0);
@@ -245,6 +253,7 @@ public final class QuestionsTest {
         row("what is sure hangs on nothing", y::hangs, NONE, NONE);
     }
 
+    // Promise 27: "LEAST, as bits."
     private static void least() {
         KeepingHands x = lent(2, "lent answers all if fault=1;lent answers all if there=1 and there=0;");
         Check.due("no questions", 0, x::least);
@@ -264,6 +273,7 @@ public final class QuestionsTest {
         Check.due("no harm", 0, x::least);
     }
 
+    // Promise 27, section 3: "all CASES with the same bits of these have the same BEARS of all HANDS"
     private static void leastOfMany() {
         KeepingHands x = lent(8, "lent answers all if fault=1;lent owes 1;");
         for (int k = 1; k <= 8; k++) {
@@ -297,6 +307,7 @@ public final class QuestionsTest {
         Check.due("hand 1 gets and pays", 0, () -> z.inCase(1, 1));
     }
 
+    // Promise 28: "FINDING: the sort."; section 3: "it is gone (those behind it have a number less)"
     private static void find() {
         KeepingHands x = lent(1, "");
         Check.due("none", Check.NO_SUCH, () -> x.find(0, true));
@@ -323,6 +334,7 @@ public final class QuestionsTest {
         Check.due("room for one again", 7, () -> x.question(0, 1, 0));
     }
 
+    // Promise 28, section 3: "what it makes so is told then."
     private static void findHarmAndDay() {
         KeepingHands x = lent(2, "any answers all;any owes days;");
         x.question(4, 0, HURT);

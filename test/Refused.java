@@ -7,8 +7,6 @@ import java.util.function.Supplier;
  * a twin on which the call was not made; both tell all that can be asked, to their laws, tape and images.
  */
 final class Refused {
-    static final int[] FEW = {0, 1, 2, 3};
-
     private Refused() {
     }
 
@@ -17,7 +15,7 @@ final class Refused {
     }
 
     /** Numbers that are not from least to most: next to it on both sides, and as far off as can be. */
-    static int[] outside(int least, int most) {
+    static int[] notWithin(int least, int most) {
         return new int[] {least - 1, most + 1, Integer.MIN_VALUE, Integer.MAX_VALUE};
     }
 
@@ -31,7 +29,7 @@ final class Refused {
 
     /** The call with each number that is not from least to most is refused. */
     static void outside(String what, int least, int most, int due, IntFunction<On> call) {
-        for (int number : outside(least, most)) {
+        for (int number : notWithin(least, most)) {
             is(what + " " + number, due, Refused::plenty, call.apply(number));
         }
     }
@@ -111,8 +109,9 @@ final class Refused {
             tell(out, "judged", () -> x.judge(h, 0));
         }
         for (int hand = 0; hand <= last && hand < 4; hand++) {
-            for (int f : FEW) {
+            for (int fact = 0; fact < 4; fact++) {
                 int h = hand;
+                int f = fact;
                 tell(out, "fact", () -> x.fact(h, f, false) ? 1 : 0);
             }
         }

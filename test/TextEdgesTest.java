@@ -405,6 +405,9 @@ public final class TextEdgesTest {
         Check.dueFault("any answers all if not not not not not not not 1=1;", 3, 43);
         Check.dueFault("any owes 1+(2*(3-(4/(5+(6*(7-(8)))))));", 3, 29);
         Check.dueFault("any answers all if 1=(((((((5)))))));", 3, 27);
+        Check.dueFault("any owes ((((((least(1,2)))))));", 3, 20);
+        Check.dueFault("any owes most(1,most(1,most(1,most(1,most(1,most(1,(6)))))));", 3, 51);
+        Check.dueFault("any owes most(1,most(1,most(1,most(1,most(1,most(1,most(1,6)))))));", 3, 55);
         Check.dueFault("any answers all if (((((((5)))))))=1;", 3, 25);
     }
 
@@ -550,6 +553,19 @@ public final class TextEdgesTest {
         holds("1/0=0 and 1=1", true);
         holds("1/0=0 and 1/0=0 or 1/0=1", true);
         holds("1/0=1 and 1/0=1 or 1/0=1", false);
+        String[] so = {"1=1", "1<2", "2>1", "not 1=2", "[1=1]"};
+        String[] notSo = {"1=2", "2<1", "1>2", "not 1=1", "[1=2]"};
+        for (String one : so) {
+            for (int i = 0; i < so.length; i++) {
+                holds(one + " and " + so[i], true);
+                holds(one + " or " + so[i], true);
+                holds("not [" + one + " or " + so[i] + "]", false);
+                holds(one + " and " + notSo[i], false);
+                holds(one + " or " + notSo[i], true);
+                holds(notSo[i] + " and " + one, false);
+                holds(notSo[i] + " or " + one, true);
+            }
+        }
         // What can't be read is a FAULT on a side that could not change the whole, too.
         Check.dueFault("any answers all if 1=1 or 1=;", 1, 28);
         Check.dueFault("any answers all if 1=2 and 1=10000;", 2, 29);
@@ -601,6 +617,8 @@ public final class TextEdgesTest {
         alike(sum + ("most(1,1+1*").repeat(6) + "1" + ")".repeat(6), "8");
         holds(wait + ("[" + wait).repeat(6) + "8=1+1*7" + "]".repeat(6), true);
         holds(wait + ("[" + wait).repeat(3) + "8=5+1*" + ("(0+1*").repeat(3) + "3" + ")".repeat(3) + "]".repeat(3), true);
+        holds(wait + "8=" + sum + ("most(1,1+1*").repeat(6) + "1" + ")".repeat(6), true);
+        holds(wait + "8=" + sum + ("least(9,1+1*").repeat(6) + "1" + ")".repeat(6), true);
         holds(wait + ("not [" + wait).repeat(3) + "8=5+1*3" + "]".repeat(3), false);
         holds(wait + ("not [" + wait).repeat(2) + "8=5+1*" + ("most(0,0+1*").repeat(2) + "3" + "))" + "]]", true);
     }

@@ -351,7 +351,7 @@ public final class WholeEdgesTest {
     // Section 4: "Of several exceptions of one call NoSuchElementException goes ahead of IllegalArgumentException"
     private static void severalExceptions() {
         int due = Check.NO_SUCH;
-        for (int hand : Refused.outside(0, 3)) {
+        for (int hand : Refused.notWithin(0, 3)) {
             Refused.is("hand", due, Refused::plenty, x -> x.hand(hand, 6));
             Refused.is("purse", due, Refused::plenty, x -> x.purse(hand, 10000));
             Refused.is("fact", due, Refused::plenty, x -> x.fact(hand, 4, true) ? 1 : 0);
