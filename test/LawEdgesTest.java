@@ -204,6 +204,7 @@ public final class LawEdgesTest {
                 Check.dueIf("a fault once more", true, () -> Check.law(x, text) < -6);
             }
             Check.due("six are open again", 2, () -> Check.law(x, "any owes ((((((1))))));"));
+            Check.due("and its sum", 1, () -> x.words(2, 0, 0, 9, 0, 2));
             Check.due("24 clauses again", 3, () -> Check.law(x, "any owes 7;" + "any twice;".repeat(23)));
             Check.due("the first of them", 7, () -> x.words(3, 0, 0, 0, 0, 2));
         }
