@@ -713,7 +713,7 @@ public final class KeepingHands {
             nextToken();
             boolean right = true;
             for (int i = 0; right && i <= MOST_CLAUSES && kind != END_OF_TEXT; i++) {
-                right = readClause();
+                right = readClause() && take(';');
             }
             return fault;
         }
@@ -728,7 +728,21 @@ public final class KeepingHands {
                 return fail(TOO_MANY);
             }
             nextToken();
-            return (mixes ? readMixing() : readKeeping(bitsOf(keeping, KEEPINGS))) && take(';');
+            if (mixes) {
+                return readMixing();
+            }
+            int sort = wordOf(CLAUSE_WORDS);
+            if (sort == NONE) {
+                return fail(MISPLACED);
+            }
+            law.beginClause(sort, bitsOf(keeping, KEEPINGS));
+            nextToken();
+            switch (sort) {
+                case Law.OWES: return readSum();
+                case Law.LETS: return readTerms();
+                case Law.TWICE: return true;
+                default: return readHarms() && (!takeWord("if") || readEither());
+            }
         }
 
         private boolean readMixing() {
@@ -740,21 +754,6 @@ public final class KeepingHands {
             law.mixing = way;
             nextToken();
             return true;
-        }
-
-        private boolean readKeeping(int keepings) {
-            int sort = wordOf(CLAUSE_WORDS);
-            if (sort == NONE) {
-                return fail(MISPLACED);
-            }
-            law.beginClause(sort, keepings);
-            nextToken();
-            switch (sort) {
-                case Law.OWES: return readSum();
-                case Law.LETS: return readTerms();
-                case Law.TWICE: return true;
-                default: return readHarms() && (!takeWord("if") || readEither());
-            }
         }
 
         private boolean readHarms() {
@@ -819,7 +818,11 @@ public final class KeepingHands {
             if (kind == '[') {
                 return enter() && readEither() && leave(']');
             }
-            return readSum() && readComparison();
+            boolean right = readSum();
+            int sign = kind;
+            right = right && takeComparison() && readSum();
+            law.addStep(sign);
+            return right;
         }
 
         private boolean readNot() {
@@ -831,15 +834,8 @@ public final class KeepingHands {
             return true;
         }
 
-        private boolean readComparison() {
-            int sign = kind;
-            if (sign != '<' && sign != '>' && sign != '=') {
-                return fail(MISPLACED);
-            }
-            nextToken();
-            boolean right = readSum();
-            law.addStep(sign);
-            return right;
+        private boolean takeComparison() {
+            return kind == '<' || kind == '>' ? take(kind) : take('=');
         }
 
         private boolean readSum() {
