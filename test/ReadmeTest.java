@@ -15,8 +15,6 @@ import java.util.concurrent.Callable;
 import java.util.regex.Matcher;
 import java.util.regex.Pattern;
 import java.util.stream.Stream;
-import javax.tools.JavaCompiler;
-import javax.tools.ToolProvider;
 
 /** README.md: its Java is compiled, each of its calls is made, and is held to the answer that stands behind it. */
 public final class ReadmeTest {
@@ -97,9 +95,9 @@ public final class ReadmeTest {
         Path folder = Files.createTempDirectory("readme");
         Path source = folder.resolve("ReadmeRun.java");
         Files.write(source, compiledLines());
-        JavaCompiler compiler = ToolProvider.getSystemJavaCompiler();
         String path = System.getProperty("java.class.path");
-        int failed = compiler.run(null, null, null, "-cp", path, "-d", folder.toString(), source.toString());
+        int failed = new ProcessBuilder("javac", "-cp", path, "-d", folder.toString(), source.toString())
+            .inheritIO().start().waitFor();
         need("the Java on the page compiles", failed == 0);
         if (failed == 0) {
             makeCalls(folder);
